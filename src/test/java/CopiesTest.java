@@ -152,6 +152,8 @@ public final class CopiesTest {
         Check.due("other numbers", x.alike(0, 1), 0);
         x.set(1, 0, 0);
         Check.due("like numbers", x.alike(0, 1), 1);
+        Check.due("not alike, again", x.alike(0, 2), 0);
+        Check.due("the very same, whatever was asked ahead", x.alike(1, 1), 1);
         Check.due("object 3", x.alike(3, 0), FieldEditor.BAD);
         Check.due("other 3", x.alike(0, 3), FieldEditor.BAD);
         Check.due("object -1", x.alike(-1, -1), FieldEditor.BAD);
@@ -225,6 +227,14 @@ public final class CopiesTest {
         x.set(2, 0, 1);
         x.set(3, 0, 1);
         Check.due("all like again", x.alike(0, 1), 1);
+        FieldEditor y = made(12);
+        for (int k = 0; k < 12; k++) {
+            for (int p = 0; p < 6; p++) y.insert(k, 4, p, (k * 5 + p * 7) % 12);
+            y.lead(k, 3, (k + 1) % 12);
+        }
+        for (int k = 1; k < 12; k++) Check.due("all lead to all", y.alike(k, 0), 1);
+        y.set(7, 0, 3);
+        for (int k = 1; k < 12; k++) Check.due("one is another", y.alike(k, 0), 0);
     }
 
     private static void alikeLong() {

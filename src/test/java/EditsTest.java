@@ -6,6 +6,7 @@ public final class EditsTest {
         set();
         setReadOnly();
         lead();
+        leadDown();
         leadLoop();
         unset();
         insert();
@@ -88,6 +89,18 @@ public final class EditsTest {
         Check.due("other MISSING", x.lead(2, 1, MISSING), FieldEditor.BAD);
         Check.due("BAD ahead of KIND", x.lead(2, 0, 3), FieldEditor.BAD);
         Check.due("as it was", x.get(2, 1), 1);
+    }
+
+    /** Ten shapes below one another: the last is each of them, the first is none of the others. */
+    private static void leadDown() {
+        FieldEditor x = new FieldEditor();
+        for (int s = 0; s < 10; s++) x.shape(s - 1);
+        x.link(9, 0, false, false, false, true);
+        x.link(9, 9, true, false, false, true);
+        for (int s = 0; s < 10; s++) x.object(s);
+        for (int s = 0; s < 10; s++) Check.due("to shape " + s, x.lead(9, 0, s), 1);
+        for (int s = 0; s < 9; s++) Check.due("into a list, shape " + s, x.insert(9, 1, 0, s), FieldEditor.SHAPE);
+        Check.due("into a list, the last shape", x.insert(9, 1, 0, 9), 1);
     }
 
     private static FieldEditor linked(int objects) {

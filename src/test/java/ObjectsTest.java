@@ -120,6 +120,13 @@ public final class ObjectsTest {
         x.unset(0, 1);
         Check.due("gone again", x.holders(2), 2);
         Check.due("object 3", x.holders(3), FieldEditor.BAD);
+        FieldEditor y = new FieldEditor();
+        y.shape(FieldEditor.NONE);
+        y.link(0, 0, false, false, false, false);
+        y.object(0);
+        y.object(0);
+        y.lead(1, 0, 0);
+        Check.due("by the first field", y.holders(0), 1);
         Check.due("object -1", x.holders(-1), FieldEditor.BAD);
     }
 

@@ -118,8 +118,12 @@ public final class PathsTest {
         Check.due("of a shape that has no such link", x.fault(behindLink, 2), 0);
         int own = pathOf(x, FIELD, 4);
         Check.due("judged from the shape below", x.fault(own, 1), -1);
+        x.link(2, 1, true, false, false, false);
+        int inList = pathOf(x, FIELD, 0, EVERY, 0, FIELD, 4);
+        Check.due("of a list of the shape below", x.fault(inList, 2), -1);
+        Check.due("a list of shapes that have it not", x.fault(pathOf(x, FIELD, 0, LAST, 0, FIELD, 5), 2), 2);
         Check.due("judged from the shape above", x.fault(own, 0), 0);
-        int late = pathOf(x, FIELD, 0);
+        int late = pathOf(x, FIELD, 1);
         Check.due("not there yet", x.fault(late, 2), 0);
         x.number(2, 0, 1, false, false);
         Check.due("there now", x.fault(late, 2), -1);
@@ -171,6 +175,11 @@ public final class PathsTest {
         matchDue(x, "place 1", second, 0, 0, 1, -1);
         Check.due("one", x.matches(second, 0), 1);
         matchDue(x, "the last", last, 0, 0, 4, -1);
+        matchDue(x, "place 0", pathOf(x, FIELD, 2, ELEMENT, 0), 0, 0, 4, -1);
+        x.insert(0, 2, 3, 2);
+        matchDue(x, "place 3", pathOf(x, FIELD, 2, ELEMENT, 3), 0, 0, 2, -1);
+        Check.due("no place 4", x.matches(pathOf(x, FIELD, 2, ELEMENT, 4), 0), 0);
+        x.undo();
         Check.due("every", x.matches(every, 0), 3);
         int[] row = {4, 1, 4};
         for (int k = 0; k < 3; k++) {
