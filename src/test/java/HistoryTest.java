@@ -15,6 +15,7 @@ public final class HistoryTest {
         sixtyAreKept();
         groupsCountAsOne();
         longGroup();
+        beyondThePromisedCalls();
         Check.end();
     }
 
@@ -261,5 +262,17 @@ public final class HistoryTest {
         Check.due("commit", x.commit(), 500);
         Check.due("undo", x.undo(), 0);
         Check.due("all taken back", x.get(0, 0), MISSING);
+    }
+
+    /** What such calls answer is free, but none of them may throw, nor keep more and more. */
+    private static void beyondThePromisedCalls() {
+        FieldEditor x = made();
+        x.begin();
+        for (int k = 0; k < 5000; k++) x.set(0, 0, k % 900);
+        Check.that("a group has an end", x.count(5) <= 512);
+        x.abort();
+        Check.due("taken back all the same", x.get(0, 0), MISSING);
+        for (int k = 0; k < 5000; k++) x.set(0, 0, k % 900);
+        Check.due("60 are kept", x.count(3), 60);
     }
 }
