@@ -9,6 +9,7 @@ public final class BoundsTest {
         PathBounds.all();
         CopyBounds.all();
         WatchBounds.all();
+        RefusalBounds.all();
         Doc.nothingLeftOut();
         Check.end();
     }

@@ -23,7 +23,8 @@ final class CopyBounds {
     private static Story made(int objects) {
         return Story.of("shape(NONE); number(0, -9, 99, false, false); link(0, 0, false, false, false, false)")
             .then("link(0, 0, true, false, false, false); link(0, 0, false, false, false, true)")
-            .then("link(0, 0, true, false, false, true); shape(0)").times(objects, "object(0) = #");
+            .then("link(0, 0, true, false, false, true); shape(0)").times(objects, "object(0) = #")
+            .stirredBy("insert(0, 4, 0, 0)");
     }
 
     private static void copyBad() {

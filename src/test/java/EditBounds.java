@@ -34,7 +34,8 @@ final class EditBounds {
         return Story.of("shape(NONE); number(0, -5, 5, false, false); number(0, -5, 5, false, true); number(0, -5, 5, true, false)")
             .then("link(0, 0, false, false, false, false); link(0, 0, false, false, true, false)")
             .then("link(0, 0, true, false, false, false); link(0, 0, true, false, false, true); derived(0, 3, 5, 0)")
-            .then("shape(NONE) = 1; shape(0) = 2; object(0); object(0); object(0); object(1); object(2)");
+            .then("shape(NONE) = 1; shape(0) = 2; object(0); object(0); object(0); object(1); object(2)")
+            .stirredBy("insert(2, 6, 0, 2)");
     }
 
     private static final String[] EDITS = {"set(@, 0)", "unset(@)", "lead(@, 1)", "insert(@, 0, 1)", "remove(@, 0)",
@@ -248,20 +249,24 @@ final class EditBounds {
 
     private static void refusedFirst() {
         Doc.says("Refused, changing nothing, the first of: BAD -2 a number is not as told; NO -3 as told; FULL -4.");
-        Story full = made().then("begin(); set(0, 0, 1)").times(55, "object(0)").times(7, "shape(NONE)").times(16, "path()")
-            .times(10, "watch(0, 0, false, 0)").times(5, "step(0, 2, 0)");
+        Story full = made().times(55, "object(0)").times(7, "shape(NONE)").times(16, "path()").times(5, "step(0, 2, 0)")
+            .times(10, "watch(0, 0, false, 0)").then("set(0, 0, 1); set(0, 0, 2)");
         full.refuses("shape(10) = BAD", "shape(NONE) = FULL", "object(10) = BAD", "object(0) = FULL", "copy(60) = BAD",
-            "copy(0) = FULL",
-            "path() = FULL", "step(16, 0, 0) = BAD", "step(0, 5, 0) = BAD", "step(0, 0, 8) = BAD", "step(0, 0, 0) = FULL",
-            "watch(0, 7, false, 0) = BAD", "watch(0, 0, false, 0) = FULL", "number(0, 1, 0, false, false) = BAD",
-            "number(0, 0, 1, false, false) = NO", "begin() = NO", "undo() = NO", "redo() = NO");
+            "copy(0) = FULL", "path() = FULL", "step(16, 0, 0) = BAD", "step(0, 5, 0) = BAD", "step(0, 0, 8) = BAD",
+            "step(0, 0, 0) = FULL", "watch(0, 7, false, 0) = BAD", "watch(0, 0, false, 0) = FULL", "watch(0, 0, true, 0) = FULL");
+        full.refuses("number(0, 1, 0, false, false) = BAD", "number(0, 0, 1, false, false) = NO",
+            "link(0, 10, false, false, false, false) = BAD", "link(0, 0, true, true, false, false) = BAD",
+            "link(0, 0, false, false, false, false) = NO", "derived(0, 6, 0, 0) = BAD", "derived(0, 5, 8, 0) = BAD",
+            "derived(0, 5, 0, 0) = NO", "told(10, 0, 0) = BAD", "told(0, 0, 4) = BAD", "told(0, 8, 0) = NONE");
+        full.then("begin(); set(0, 0, 3)").refuses("begin() = NO", "undo() = NO", "redo() = NO", "shape(NONE) = FULL",
+            "copy(0) = FULL");
     }
 
     /** Number 0 of any value, a weak list 1, link 2, sum 3; shape 1 below has number 4. Objects 0 .. 4, and 5 of shape 1. */
     private static Story sortable() {
         return Story.of("shape(NONE); number(0, -2147483647, MOST, false, false); link(0, 0, true, false, false, true)")
             .then("link(0, 0, false, false, false, true); derived(0, 0, 0, 0); shape(0); number(1, 0, 9, false, false)")
-            .times(5, "object(0)").then("object(1)").times(6, "insert(0, 1, #, #)");
+            .times(5, "object(0)").then("object(1)").times(6, "insert(0, 1, #, #)").stirredBy("insert(4, 1, 0, 4)");
     }
 
     private static void row(Story story, int... due) {

@@ -35,6 +35,7 @@ final class HistoryBounds {
         Story open = made().then("begin() = 1").tells("count(5) = 0");
         open.refuses("begin() = NO");
         open.then("set(0, 0, 1)").refuses("begin() = NO");
+        made().then("set(0, 0, 1); undo(); begin()").refuses("begin() = NO");
         open.then("commit()").answers("begin() = 1");
         open.then("abort()").answers("begin() = 1");
         open.then("set(0, 0, 1); commit()").answers("begin() = 1");
@@ -46,6 +47,7 @@ final class HistoryBounds {
         made().then("set(0, 0, 1)").refuses("commit() = NO");
         made().then("begin(); set(0, 0, 1); commit() = 1").refuses("commit() = NO", "abort() = NO");
         made().then("begin(); abort() = 0").refuses("commit() = NO");
+        made().then("set(0, 0, 1); set(0, 0, 2); undo()").refuses("commit() = NO", "abort() = NO");
     }
 
     private static void commitOfNone() {

@@ -30,7 +30,7 @@ final class ObjectBounds {
     }
 
     private static Story made(int objects) {
-        return shape().times(objects, "object(0) = #");
+        return shape().times(objects, "object(0) = #").stirredBy("insert(0, 4, 0, 0)");
     }
 
     private static void objectBad() {
@@ -57,7 +57,7 @@ final class ObjectBounds {
 
     private static void objectCantBeUndone() {
         Doc.says(7, "(It can't be undone.)");
-        made(2).refuses("undo() = NO", "redo() = NO").tells("count(3) = 0");
+        made(2).tells("undo() = NO", "redo() = NO", "count(3) = 0");
         made(1).then("set(0, 0, 1); object(0); undo() = 0").tells("count(1) = 2");
         made(1).then("begin(); object(0); abort() = 0").tells("count(1) = 2");
         made(1).then("set(0, 0, 1); undo(); object(0)").tells("count(4) = 1");

@@ -39,7 +39,7 @@ final class PathBounds {
     private static Story made() {
         return Story.of("shape(NONE); number(0, 0, 9, false, false); link(0, 0, false, false, false, true)")
             .then("link(0, 0, true, false, false, true); derived(0, 3, 2, 0); shape(0); number(1, 0, 9, false, false)")
-            .then("shape(NONE); object(0); object(0); object(0); object(1); object(2)");
+            .then("shape(NONE); object(0); object(0); object(0); object(1); object(2)").stirredBy("insert(2, 2, 0, 2)");
     }
 
     private static Story with(Story story, String... steps) {

@@ -27,14 +27,21 @@ final class Story {
     }
 
     private final List<Call> calls;
+    /** An edit of a place that has no say in the story, see refuses(); null: there is none. */
+    private final String stir;
     private List<String> look = null;
 
-    private Story(List<Call> calls) {
+    private Story(List<Call> calls, String stir) {
         this.calls = calls;
+        this.stir = stir;
     }
 
     static Story of(String... texts) {
-        return new Story(List.of()).then(texts);
+        return new Story(List.of(), null).then(texts);
+    }
+
+    Story stirredBy(String edit) {
+        return new Story(calls, edit);
     }
 
     /** The story goes on: each call answers as is due, or is taken (0 or more) where nothing is told. */
@@ -43,7 +50,7 @@ final class Story {
         for (String text : texts) {
             for (String each : text.split("; ?")) longer.add(call(each));
         }
-        Story next = new Story(longer);
+        Story next = new Story(longer, stir);
         next.checkFrom(calls.size());
         return next;
     }
@@ -71,9 +78,17 @@ final class Story {
         return this;
     }
 
-    /** Each of the calls, alone behind the story, is refused as is due and changes nothing. */
+    /**
+     * Each of the calls, alone behind the story, is refused as is due and changes nothing; if the story can be
+     * stirred, also while there is something to be done again, and in a group that has begun.
+     */
     Story refuses(String... texts) {
         for (String text : texts) Check.that(text + " is due to be refused", call(text).due < 0);
+        if (stir != null && count(5) >= 0) then(stir).tells(texts);
+        if (stir != null && count(5) < 0) {
+            then(stir, stir, "undo()").tells(texts);
+            then("begin()", stir).tells(texts);
+        }
         return tells(texts);
     }
 

@@ -29,7 +29,7 @@ final class WatchBounds {
     private static Story made() {
         return Story.of("shape(NONE); number(0, -99, 99, false, false); link(0, 0, false, false, false, true)")
             .then("link(0, 0, true, false, false, true); derived(0, 0, 0, 0); shape(0); number(1, 0, 9, false, false)")
-            .then("object(0); object(0); object(1)");
+            .then("object(0); object(0); object(1)").stirredBy("insert(1, 2, 0, 1)");
     }
 
     private static void watchBadShape() {
