@@ -4,6 +4,7 @@ final class DerivedBounds {
     }
 
     static void all() {
+        followsItsOwn();
         codeBad();
         shapeBad();
         ofTwoBad();
@@ -19,6 +20,21 @@ final class DerivedBounds {
         shareByZero();
         leastInt();
         sumOfTotals();
+    }
+
+    private static void followsItsOwn() {
+        Doc.says("3 DERIVED, which follows from other FIELDS of the same SHAPE.");
+        Story both = Story.of("shape(NONE); number(0, 0, 9, false, false); shape(0); number(1, 0, 9, false, false) = 1")
+            .then("link(1, 0, true, false, false, false) = 2; derived(1, 0, 0, 1) = 3; derived(1, 4, 2, 0) = 4; derived(1, 3, 2, 0) = 5")
+            .then("derived(1, 5, 2, 0) = 6; derived(1, 1, 3, 5) = 7; object(1) = 0; object(1) = 1; object(0) = 2");
+        Story filled = both.then("set(0, 0, 2); set(0, 1, 3); set(1, 0, 7); set(1, 1, 1); insert(0, 2, 0, 2)");
+        filled.tells("get(0, 3) = 5", "get(0, 4) = 0", "get(0, 5) = 1", "get(0, 6) = 1", "get(0, 7) = 5");
+        filled.tells("get(1, 3) = 8", "get(1, 4) = 0", "get(1, 5) = 0", "get(1, 6) = 0", "get(1, 7) = 8");
+        Story more = filled.then("set(0, 0, 9); insert(0, 2, 0, 1); set(2, 0, 4)");
+        more.tells("get(0, 3) = 12", "get(0, 4) = 11", "get(0, 5) = 2", "get(0, 6) = 1", "get(0, 7) = 12");
+        more.tells("get(1, 3) = 8", "get(1, 4) = 0", "get(1, 5) = 0", "get(1, 6) = 0", "get(1, 7) = 8");
+        more.then("undo(); undo(); undo()").tells("get(0, 3) = 5", "get(0, 4) = 0", "get(0, 5) = 1", "get(0, 7) = 5");
+        more.then("remove(0, 2, 0); remove(0, 2, 0)").tells("get(0, 4) = 0", "get(0, 5) = 0", "get(0, 6) = 0", "get(0, 7) = 12");
     }
 
     private static void codeBad() {

@@ -7,10 +7,12 @@ import java.util.Map;
 import java.util.regex.Matcher;
 import java.util.regex.Pattern;
 
-/** The document: tests quote the sentences that they are of, and what names a bound must be quoted by one. */
+/** The document: tests quote the sentences that they are of, and each word of it must be quoted by one. */
 final class Doc {
-    private static final Pattern BOUND = Pattern.compile(
-        "\\b(BAD|NO|FULL|NONE|RANGE|REFUSED|Refused|MISSING|WEAK|LOOP|VETO|empty|wraps|at most|kept|up to)\\b| \\.\\. ");
+    /** What only says again, or groups, what the promises tell one by one. */
+    private static final Pattern HEADING = Pattern.compile("An editor of objects by their fields: .*? the very same\\. "
+        + "|Ahead of the calls [^:]* the interface says: (---- (shapes|objects|paths|copies|watches)\\.)?");
+    private static final Pattern LEFT_OUT = Pattern.compile("[A-Za-z0-9][^_]*");
     private static final Map<String, StringBuilder> LEFT = sections();
     private static final Map<String, String> WHOLE = new LinkedHashMap<>();
 
@@ -31,18 +33,15 @@ final class Doc {
         quote(WHOLE.get("Terms").contains(words) ? "Terms" : "What it is", words);
     }
 
-    /** Whatever names a bound has been quoted, so that there is a test of it. */
+    /** Each word has been quoted, so that there is a test of it. */
     static void nothingLeftOut() {
         for (int promise = 1; promise <= 35; promise++) {
-            String section = "Promise " + promise;
-            Check.that(section + " has a test", !LEFT.get(section).toString().equals(WHOLE.get(section)));
+            Check.that("the document has promise " + promise, WHOLE.containsKey("Promise " + promise));
         }
+        Check.due("sections with tests", WHOLE.size(), 37);
         LEFT.forEach((name, left) -> {
-            Matcher bound = BOUND.matcher(left);
-            while (bound.find()) {
-                int from = Math.max(0, bound.start() - 40), to = Math.min(left.length(), bound.end() + 40);
-                Check.that(name + ": no test is of '" + left.substring(from, to) + "'", false);
-            }
+            Matcher words = LEFT_OUT.matcher(left);
+            while (words.find()) Check.that(name + ": no test is of '" + words.group() + "'", false);
         });
     }
 
@@ -58,7 +57,8 @@ final class Doc {
             String name = section.substring(0, section.indexOf('\n')).replaceAll(":.*", "");
             boolean wanted = name.startsWith("Promise") || name.equals("Terms") || name.equals("What it is");
             String text = section.substring(section.indexOf('\n')).replaceAll("```(text)?", " ").replaceFirst("^\\s*`[^`]*`:", "");
-            if (wanted) all.put(name, new StringBuilder(text.replaceAll("\\s+", " ").trim()));
+            String words = HEADING.matcher(text.replaceAll("\\s+", " ").trim()).replaceAll("");
+            if (wanted) all.put(name, new StringBuilder(words));
         }
         return all;
     }

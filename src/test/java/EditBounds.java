@@ -4,6 +4,7 @@ final class EditBounds {
     }
 
     static void all() {
+        ofOneField();
         editsBad();
         otherBad();
         kind();
@@ -43,6 +44,17 @@ final class EditBounds {
 
     private static String of(String edit, String place) {
         return edit.replace("@", place);
+    }
+
+    private static void ofOneField() {
+        Doc.says("======== 3 EDITS of an OBJECT's FIELD.");
+        Story ready = made().then("set(0, 0, 1); set(1, 0, 2); set(4, 0, 3); set(0, 2, 4)");
+        ready.then("set(0, 0, 5)").tells("get(0, 0) = 5", "get(1, 0) = 2", "get(4, 0) = 3", "get(0, 1) = MISSING", "get(0, 2) = 4");
+        ready.then("unset(4, 0)").tells("get(0, 0) = 1", "get(1, 0) = 2", "get(4, 0) = MISSING", "get(0, 2) = 4");
+        Story led = ready.then("lead(0, 3, 1); lead(2, 3, 4); insert(0, 5, 0, 1); insert(0, 6, 0, 2); insert(2, 5, 0, 1)");
+        led.then("lead(0, 3, 2)").tells("get(0, 3) = 2", "get(2, 3) = 4", "get(0, 4) = MISSING", "element(0, 5, 0) = 1");
+        led.then("remove(0, 5, 0)").tells("get(0, 5) = 0", "get(0, 6) = 1", "element(2, 5, 0) = 1", "get(0, 3) = 1");
+        led.then("insert(2, 5, 0, 4)").tells("element(2, 5, 0) = 4", "element(0, 5, 0) = 1", "get(0, 5) = 1", "get(2, 6) = 0");
     }
 
     private static void editsBad() {

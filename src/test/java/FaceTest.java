@@ -1,3 +1,4 @@
+import java.io.IOException;
 import java.lang.reflect.Constructor;
 import java.lang.reflect.Field;
 import java.lang.reflect.Method;
@@ -5,96 +6,89 @@ import java.lang.reflect.Modifier;
 import java.nio.file.Files;
 import java.nio.file.Path;
 import java.util.HashSet;
-import java.util.List;
 import java.util.Set;
 import java.util.TreeSet;
 import java.util.regex.Matcher;
 import java.util.regex.Pattern;
 
-/** The public face word for word, and the rules of LANGUAGE.md that can be seen in the class and its text. */
+/** The public face is that of the document, word for word, and nothing more can be seen of the class. */
 public final class FaceTest {
-    private static final String METHODS = "shape(int) number(int,int,int,boolean,boolean) "
-        + "link(int,int,boolean,boolean,boolean,boolean) derived(int,int,int,int) told(int,int,int) object(int) "
-        + "get(int,int) element(int,int,int) shapeOf(int) holders(int) holds(int,int) set(int,int,int) "
-        + "lead(int,int,int) unset(int,int) insert(int,int,int,int) remove(int,int,int) sort(int,int,int,boolean) "
-        + "begin() commit() abort() undo() redo() path() step(int,int,int) fault(int,int) matches(int,int) "
-        + "match(int,int,int,int) copy(int) alike(int,int) watch(int,int,boolean,int) note(int,int,int) lacks() "
-        + "count(int) digest()";
-    private static final String CONSTANTS = "NONE=-1 BAD=-2 NO=-3 FULL=-4 KIND=-6 READ_ONLY=-7 RANGE=-8 SHAPE=-9 "
-        + "LOOP=-10 REQUIRED=-11 VETO=-12 MISSING=-2147483648";
+    private static final Pattern METHOD = Pattern.compile("public (int|long) (\\w+)\\(([^)]*)\\);");
+    private static final Pattern CONSTANT = Pattern.compile("(\\w+) = (-?\\d+)");
 
     public static void main(String[] args) throws Exception {
-        face();
-        constants();
-        classesInside();
-        text();
+        String document = Files.readString(Path.of("../shared/DOC.md"));
+        int from = document.indexOf("public final class FieldEditor {");
+        String face = document.substring(from, document.indexOf("```", from));
+        constants(face);
+        constructor(face);
+        methods(face);
+        privateNames();
+        wordForWord(face);
         Check.end();
     }
 
-    private static void face() {
-        Class<?> face = FieldEditor.class;
-        Check.that("public and final", Modifier.isPublic(face.getModifiers()) && Modifier.isFinal(face.getModifiers()));
-        Constructor<?>[] constructors = face.getDeclaredConstructors();
-        Check.due("constructors", constructors.length, 1);
-        Check.that("it is public", Modifier.isPublic(constructors[0].getModifiers()));
-        Set<String> due = new TreeSet<>(List.of(METHODS.split(" ")));
-        Set<String> there = new TreeSet<>();
-        Set<String> names = new HashSet<>();
-        for (Method m : face.getDeclaredMethods()) {
-            if (Modifier.isPrivate(m.getModifiers())) continue;
-            there.add(signature(m));
-            names.add(m.getName());
-            Class<?> answer = m.getName().equals("digest") ? long.class : int.class;
-            Check.that(m + " answers as told", m.getReturnType() == answer && Modifier.isPublic(m.getModifiers()));
-        }
-        Check.that("methods: " + there, there.equals(due));
-        for (Method m : face.getDeclaredMethods()) {
-            if (Modifier.isPrivate(m.getModifiers())) Check.that(m + " has its own name", !names.contains(m.getName()));
-            Check.that(m + " takes seven at most", m.getParameterCount() <= 7);
-        }
-    }
-
-    private static String signature(Method m) {
-        StringBuilder text = new StringBuilder(m.getName()).append('(');
-        for (Class<?> type : m.getParameterTypes()) text.append(text.charAt(text.length() - 1) == '(' ? "" : ",").append(type.getName());
-        return text.append(')').toString();
-    }
-
-    private static void constants() throws IllegalAccessException {
+    private static void constants(String face) throws IllegalAccessException {
+        Set<String> due = new TreeSet<>();
+        Matcher each = CONSTANT.matcher(face);
+        while (each.find()) due.add(each.group(1) + "=" + each.group(2));
         Set<String> there = new TreeSet<>();
         for (Field f : FieldEditor.class.getDeclaredFields()) {
             int m = f.getModifiers();
-            if (Modifier.isStatic(m)) Check.that(f + " is final", Modifier.isFinal(m));
             if (Modifier.isPrivate(m)) continue;
-            Check.that(f + " is a constant", Modifier.isPublic(m) && Modifier.isStatic(m) && f.getType() == int.class);
+            Check.that(f + " is a constant", Modifier.isPublic(m) && Modifier.isStatic(m) && Modifier.isFinal(m)
+                && f.getType() == int.class);
             there.add(f.getName() + "=" + f.getInt(null));
         }
-        Check.that("constants: " + there, there.equals(new TreeSet<>(List.of(CONSTANTS.split(" ")))));
+        Check.due("constants of the document", due.size(), 12);
+        Check.that("constants: " + there + ", due are " + due, there.equals(due));
     }
 
-    private static void classesInside() {
-        Class<?>[] inside = FieldEditor.class.getDeclaredClasses();
-        Check.that("some twelve classes", inside.length + 1 <= 12);
-        for (Class<?> c : inside) {
-            int m = c.getModifiers();
-            Check.that(c + " is static, not public", Modifier.isStatic(m) && !Modifier.isPublic(m) && !Modifier.isProtected(m));
-            for (Field f : c.getDeclaredFields()) Check.that(f + " is not static", !Modifier.isStatic(f.getModifiers()));
+    private static void constructor(String face) {
+        Check.that("the document has a constructor", face.contains("public FieldEditor();"));
+        int modifiers = FieldEditor.class.getModifiers();
+        Check.that("public and final", Modifier.isPublic(modifiers) && Modifier.isFinal(modifiers));
+        Constructor<?>[] all = FieldEditor.class.getDeclaredConstructors();
+        Check.due("constructors", all.length, 1);
+        Check.that("it is public, with nothing to take", Modifier.isPublic(all[0].getModifiers()) && all[0].getParameterCount() == 0);
+    }
+
+    private static void methods(String face) {
+        Set<String> due = new TreeSet<>();
+        Matcher each = METHOD.matcher(face);
+        while (each.find()) due.add(each.group(1) + " " + each.group(2) + "(" + each.group(3).replaceAll(" \\w+(, )?", "$1") + ")");
+        Set<String> there = new TreeSet<>();
+        for (Method m : FieldEditor.class.getDeclaredMethods()) {
+            if (Modifier.isPrivate(m.getModifiers())) continue;
+            Check.that(m + " is public, of an object", Modifier.isPublic(m.getModifiers()) && !Modifier.isStatic(m.getModifiers()));
+            there.add(told(m));
+        }
+        Check.due("methods of the document", due.size(), 34);
+        Check.that("methods: " + there + ", due are " + due, there.equals(due));
+    }
+
+    private static String told(Method m) {
+        StringBuilder text = new StringBuilder(m.getReturnType().getName()).append(' ').append(m.getName()).append('(');
+        for (int k = 0; k < m.getParameterCount(); k++) text.append(k == 0 ? "" : ", ").append(m.getParameterTypes()[k].getName());
+        return text.append(')').toString();
+    }
+
+    /** Rule 1 of LANGUAGE.md. */
+    private static void privateNames() {
+        Set<String> names = new HashSet<>();
+        for (Method m : FieldEditor.class.getMethods()) names.add(m.getName());
+        for (Method m : FieldEditor.class.getDeclaredMethods()) {
+            if (Modifier.isPrivate(m.getModifiers())) Check.that(m + " has a name of its own", !names.contains(m.getName()));
         }
     }
 
-    private static void text() throws Exception {
+    /** The names of the parameters, too, are those of the document. */
+    private static void wordForWord(String face) throws IOException {
         String source = Files.readString(Path.of("src/main/java/FieldEditor.java"));
-        String code = source.replaceAll("(?s)/\\*.*?\\*/", "").replaceAll("//[^\n]*", "");
-        for (String word : List.of("throw", "throws", "try", "catch", "synchronized", "assert", "package", "Object", "System.out",
-            "equals", "hashCode", "toString", "Exact")) {
-            Check.that("no " + word, !Pattern.compile("\\b" + Pattern.quote(word) + "\\b").matcher(code).find());
+        Matcher each = METHOD.matcher(face);
+        while (each.find()) {
+            String head = each.group().replace(";", " {");
+            Check.that("'" + head + "' stands in the class", source.contains(head));
         }
-        for (String sign : List.of("->", "::", "@", "while (true)", "for (;;)")) Check.that("no " + sign, !code.contains(sign));
-        Matcher imports = Pattern.compile("import ([^;]*);").matcher(code);
-        while (imports.find()) Check.that(imports.group(1), imports.group(1).matches("java\\.util\\.(ArrayList|Arrays|List)"));
-        for (int k = 0; k < source.length(); k++) {
-            if (source.charAt(k) > 126) Check.that("a plain character at " + k, false);
-        }
-        Check.that("the text was read", code.length() > 1000);
     }
 }

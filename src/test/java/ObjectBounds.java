@@ -11,6 +11,7 @@ final class ObjectBounds {
         missingAtFirst();
         getBad();
         getMissing();
+        elementInItsPlace();
         elementNone();
         elementOfNoList();
         elementBad();
@@ -87,6 +88,15 @@ final class ObjectBounds {
             "get(1, 1) = MISSING");
         two.then("unset(0, 0); unset(0, 1); remove(0, 2, 0)").tells("get(0, 0) = MISSING", "get(0, 1) = MISSING", "get(0, 2) = 0");
         two.then("lead(1, 3, 0)").tells("get(1, 3) = 0");
+    }
+
+    private static void elementInItsPlace() {
+        Doc.says(9, "OBJECT i of a LIST.");
+        Story three = made(4).then("insert(0, 2, 0, 3); insert(0, 2, 0, 1); insert(0, 2, 1, 2); insert(0, 4, 0, 0); insert(1, 2, 0, 3)");
+        three.tells("element(0, 2, 0) = 1", "element(0, 2, 1) = 2", "element(0, 2, 2) = 3", "element(0, 4, 0) = 0",
+            "element(1, 2, 0) = 3");
+        three.then("remove(0, 2, 1)").tells("element(0, 2, 0) = 1", "element(0, 2, 1) = 3", "element(0, 2, 2) = NONE");
+        three.then("remove(0, 2, 0); undo()").tells("element(0, 2, 0) = 1", "element(0, 2, 2) = 3");
     }
 
     private static void elementNone() {

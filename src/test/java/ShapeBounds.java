@@ -212,7 +212,7 @@ final class ShapeBounds {
     }
 
     private static void toldElseNone() {
-        Doc.says(6, "0 KIND, 1 LEAST, CODE, the SHAPE of a LINK, LIST, 2 MOST, f (else NONE),");
+        Doc.says(6, "Of a FIELD of a SHAPE: 0 KIND, 1 LEAST, CODE, the SHAPE of a LINK, LIST, 2 MOST, f (else NONE),");
         four().tells("told(1, 0, 0) = 0", "told(1, 0, 1) = -3", "told(1, 0, 2) = 8", "told(1, 1, 0) = 1", "told(1, 1, 1) = 0",
             "told(1, 1, 2) = NONE", "told(1, 2, 0) = 2", "told(1, 2, 1) = 1", "told(1, 2, 2) = NONE", "told(1, 3, 0) = 3",
             "told(1, 3, 1) = 5", "told(1, 3, 2) = 2");
